@@ -251,7 +251,7 @@ public final class SoulShore {
         for (int i = 0; i < owned; i++) {
             int other = holders[i];
             if (other != NONE && other != i) {
-                // no change can put two right that this one does not: it leaves the rest of the round as it was
+                // one change puts one caller right for good, and two only where nothing is left to do for either
                 for (int s = 0; s < beach.souls; s++) {
                     if (holders[s] == i) {
                         holders[s] = other;
@@ -596,10 +596,18 @@ public final class SoulShore {
     private int soulKinds(int s) {
         int bits = (1 << KINDS) - 1;
         for (int row = 0; row < beach.notes.size; row++) {
-            for (int kind = 0; kind < KINDS && beach.notes.get(row, 0) == s; kind++) {
-                if (weighed(kind, beach.notes.get(row, 1), beach.notes.get(row, 2)) != beach.notes.get(row, 3)) {
-                    bits &= ~(1 << kind);
-                }
+            if (beach.notes.get(row, 0) == s) {
+                bits &= kindsWeighing(beach.notes.get(row, 1), beach.notes.get(row, 2), beach.notes.get(row, 3));
+            }
+        }
+        return bits;
+    }
+
+    private static int kindsWeighing(int w, int d, int x) {
+        int bits = 0;
+        for (int kind = 0; kind < KINDS; kind++) {
+            if (weighed(kind, w, d) == x) {
+                bits |= 1 << kind;
             }
         }
         return bits;
@@ -608,10 +616,18 @@ public final class SoulShore {
     private int callerKinds(int i) {
         int bits = (1 << KINDS) - 1;
         for (int row = 0; row < beach.marks.size; row++) {
-            for (int kind = 0; kind < KINDS && beach.marks.get(row, 0) == i; kind++) {
-                if (heaviness(kind, beach.marks.get(row, 1)) != beach.marks.get(row, 2)) {
-                    bits &= ~(1 << kind);
-                }
+            if (beach.marks.get(row, 0) == i) {
+                bits &= kindsFeeling(beach.marks.get(row, 1), beach.marks.get(row, 2));
+            }
+        }
+        return bits;
+    }
+
+    private static int kindsFeeling(int x, int y) {
+        int bits = 0;
+        for (int kind = 0; kind < KINDS; kind++) {
+            if (heaviness(kind, x) == y) {
+                bits |= 1 << kind;
             }
         }
         return bits;

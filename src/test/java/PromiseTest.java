@@ -224,6 +224,8 @@ public final class PromiseTest {
         Due.is("no blanks where none is needed",
             Due.told(x, "shore2 2 2 2 2 2 2 2 2 2 2 2;soul5 9 11;caller5;walk2;tides99;"), 5);
         counts(x, 1, 1, 100, 1, 0, 1);
+        Due.is("one tide", Due.told(x, STILL + "tides 1;"), 2);
+        Due.is("one tide", x.count(2), 1);
         Due.is("blanks everywhere",
             Due.told(x, "   shore  0 1   2 3 4 00 01 02 03 04 2 2  ;   soul 05   09 00 ;  "), 2);
         Due.is("current 0", x.current(0, 0), -2);
@@ -309,6 +311,8 @@ public final class PromiseTest {
         fault("shore2 2 2 2 2 2 2 2 2 2 2 2;" + "caller0;".repeat(7), 77);
         fault("shore2 2 2 2 2 2 2 2 2 2 2 2;" + "soul0 1 0;".repeat(6) + "soul", 89);
         fault(STILL + "walk 1;" + "walk@", 41);
+        fault(STILL + "walkz 1;", 30);
+        fault(STILL + "walka 1;", 30);
         fault(STILL + "walk`", 34);
         fault(STILL + "walk{1;", 34);
         fault(STILL + "walk/", 34);
@@ -716,18 +720,11 @@ public final class PromiseTest {
     private static void promise19Far() {
         SoulShore x = read("shore 2 2 2 2 2 2 2 2 2 2 2 2;soul 0 1 0;soul 0 1 11;walk 2;");
         walkIs(x, 3, -1, 1, 1, 1, 1, 1, 1, 1, 1, 1, 1, 1);
-        // more than 20 steps: none, whatever k is, but a k that is not as told is BAD
-        x = new SoulShore();
-        int[] currents = {-1, 2, -1, 1, 1, 2, 2, -1, 1, 2, 2, 0};
-        for (int c = 0; c < 12; c++) {
-            x.current(c, currents[c]);
-        }
-        for (int n = 0; n < 11; n++) {
-            x.walks(1);
-        }
-        for (int c : new int[] {6, 2, 5, 9, 0, 3}) {
-            x.soul(0, 5, c);
-        }
+        // just 20 steps
+        x = farShore(new int[] {-2, -2, 1, 2, 2, -1, 1, 1, 1, 2, 1, 2}, new int[] {3, 4, 11, 1, 7, 2}, 9);
+        walkIs(x, 63, -1, -1, -1, -1, -1, -1, -1, -1, -1, 1, 1, 1, 1, 1, 1, 1, 1, 1, 1, 1);
+        // 21 steps: none, whatever k is, but a k that is not as told is BAD
+        x = farShore(new int[] {-1, 2, -1, 1, 1, 2, 2, -1, 1, 2, 2, 0}, new int[] {6, 2, 5, 9, 0, 3}, 11);
         for (int k : new int[] {-2, 0, 19, 20, MOST}) {
             Due.asks(x, "walk(63, " + k + ")", y -> y.walk(63, k), -6);
         }
@@ -738,6 +735,20 @@ public final class PromiseTest {
             x.tides(60);
         }
         walkIs(x, 1, 1, 1, 1, 1);
+    }
+
+    private static SoulShore farShore(int[] currents, int[] cells, int comber) {
+        SoulShore x = new SoulShore();
+        for (int c = 0; c < currents.length; c++) {
+            x.current(c, currents[c]);
+        }
+        for (int n = 0; n < comber; n++) {
+            x.walks(1);
+        }
+        for (int c : cells) {
+            x.soul(0, 5, c);
+        }
+        return x;
     }
 
     private static void promise20Right() {
@@ -1128,6 +1139,8 @@ public final class PromiseTest {
             Due.bad(x, "years(1, " + n + ")", y -> y.years(1, n));
         }
         Due.is("years(999999, 60)", x.years(999999, 60), 0);
+        // by 0: X is 12345 first, so walk 0 % 3 - 1 = -1, caller 0
+        Due.is("years(0, 1)", read(STILL + "soul 0 1 0;caller 0;").years(0, 1), 1);
         // by 1: X is 1103527590 first, so walk 16838 % 3 - 1 = 1, caller 1052 % 6 = 2
         x = read(STILL + "soul 0 1 0;soul 0 2 0;soul 0 3 1;caller 0;caller 0;caller 0;walk 1;");
         Due.is("years(1, 0)", x.years(1, 0), 0);
