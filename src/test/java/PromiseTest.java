@@ -2,8 +2,8 @@ import java.util.Arrays;
 
 /** Each promise of the document by hand: ordinary inputs, the edges it names, wrong inputs. */
 public final class PromiseTest {
-    private static final String STILL = "shore 2 2 2 2 2 2 2 2 2 2 2 2;";
-    private static final int LEAST = Integer.MIN_VALUE, MOST = Integer.MAX_VALUE;
+    private static final String STILL = Shores.STILL;
+    private static final int LEAST = Shores.LEAST, MOST = Shores.MOST;
 
     public static void main(String[] args) {
         promise01NewObject();
@@ -55,31 +55,6 @@ public final class PromiseTest {
         Due.end();
     }
 
-    private static SoulShore read(String text) {
-        SoulShore x = new SoulShore();
-        if (Due.told(x, text) < 0) {
-            Due.is("read() of " + text, x.read(), 1);
-        }
-        x.clear();
-        return x;
-    }
-
-    /** Six souls of these kinds and weights on the shelf at once, DRY 1; COMBER at 0, TIDE 1. */
-    private static SoulShore shelf(int... kindsAndWeights) {
-        SoulShore x = new SoulShore();
-        for (int n = 0; n + 1 < kindsAndWeights.length; n += 2) {
-            x.soul(kindsAndWeights[n], kindsAndWeights[n + 1], 0);
-        }
-        x.walks(0);
-        return x;
-    }
-
-    private static void counts(SoulShore x, int... due) {
-        for (int what = 0; what < due.length; what++) {
-            Due.is("count(" + what + ")", x.count(what), due[what]);
-        }
-    }
-
     private static void constants() {
         Due.is("NONE", SoulShore.NONE, -1);
         Due.is("BAD", SoulShore.BAD, -2);
@@ -88,8 +63,9 @@ public final class PromiseTest {
     }
 
     private static void promise01NewObject() {
+        Due.sentence("Promise 1: A new object");
         SoulShore x = new SoulShore();
-        counts(x, 0, 0, 0, 0, 0, 0, 0, 0, 0, 0, 0);
+        Shores.counts(x, 0, 0, 0, 0, 0, 0, 0, 0, 0, 0, 0);
         Due.is("part(0)", x.part(0), 0);
         Due.is("part(1)", x.part(1), 1);
         for (int what = 0; what <= 2; what++) {
@@ -105,7 +81,8 @@ public final class PromiseTest {
     }
 
     private static void promise02Shore() {
-        SoulShore x = read("shore 0 1 2 3 4 0 1 2 3 4 0 1;soul 5 9 0;soul 1 2 3;caller 2;walk 2;walk 0;call 0;");
+        Due.sentence("Promise 2: shore");
+        SoulShore x = Shores.read("shore 0 1 2 3 4 0 1 2 3 4 0 1;soul 5 9 0;soul 1 2 3;caller 2;walk 2;walk 0;call 0;");
         x.seen(1, 1);
         x.note(0, 1, 1, 1);
         x.mark(0, 1, 1);
@@ -116,13 +93,13 @@ public final class PromiseTest {
         x.soul(9, 9, 9);
         long above = x.part(0);
         Due.is("shore()", x.shore(), 2);
-        counts(x, 0, 0, 0, 0, 0, 0, 0, 0, 0, 0, 1);
+        Shores.counts(x, 0, 0, 0, 0, 0, 0, 0, 0, 0, 0, 1);
         Due.is("part stays", x.part(0), above);
         Due.is("part stays", x.part(0) > 0 ? 1 : 0, 1);
         Due.is("status stays", x.status(0), 1);
         Due.is("current", x.current(0, 0), 0);
         Due.is("image stays", x.from(1), 1);
-        counts(x, 2, 1, 2, 1, 0, 0, 1, 1, 1, 0, 1);
+        Shores.counts(x, 2, 1, 2, 1, 0, 0, 1, 1, 1, 0, 1);
         Due.is("shore() again", x.shore(), 2);
         Due.is("shore() empty", x.shore(), 0);
         x.soul(3, 4, 5);
@@ -131,6 +108,7 @@ public final class PromiseTest {
     }
 
     private static void promise03Current() {
+        Due.sentence("Promise 3: current");
         SoulShore x = new SoulShore();
         for (int v = -2; v <= 2; v++) {
             Due.is("current", x.current(0, v), v == -2 ? 0 : v - 1);
@@ -151,6 +129,7 @@ public final class PromiseTest {
     }
 
     private static void promise04Soul() {
+        Due.sentence("Promise 4: soul");
         SoulShore x = new SoulShore();
         int[][] wrong = {{-1, 1, 0}, {6, 1, 0}, {0, 0, 0}, {0, 10, 0}, {0, 1, -1}, {0, 1, 12},
             {LEAST, 1, 0}, {MOST, 1, 0}, {0, LEAST, 0}, {0, MOST, 0}, {0, 1, LEAST}, {0, 1, MOST}};
@@ -176,6 +155,7 @@ public final class PromiseTest {
     }
 
     private static void promise05Caller() {
+        Due.sentence("Promise 5: caller");
         SoulShore x = new SoulShore();
         for (int kind : new int[] {LEAST, -1, 6, MOST}) {
             Due.bad(x, "caller(" + kind + ")", y -> y.caller(kind));
@@ -193,6 +173,7 @@ public final class PromiseTest {
     }
 
     private static void promise06Type() {
+        Due.sentence("Promise 6: type");
         SoulShore x = new SoulShore();
         for (int c : new int[] {LEAST, -1, 128, 256, MOST}) {
             Due.bad(x, "type(" + c + ")", y -> y.type(c));
@@ -208,6 +189,7 @@ public final class PromiseTest {
     }
 
     private static void promise07Clear() {
+        Due.sentence("Promise 7: clear");
         SoulShore x = new SoulShore();
         Due.is("clear()", x.clear(), 0);
         Due.type(x, STILL);
@@ -219,11 +201,12 @@ public final class PromiseTest {
     }
 
     private static void promise08ReadItems() {
+        Due.sentence("Promise 8: read");
         SoulShore x = new SoulShore();
         Due.is("shore alone", Due.told(x, STILL), 1);
         Due.is("no blanks where none is needed",
             Due.told(x, "shore2 2 2 2 2 2 2 2 2 2 2 2;soul5 9 11;caller5;walk2;tides99;"), 5);
-        counts(x, 1, 1, 100, 1, 0, 1);
+        Shores.counts(x, 1, 1, 100, 1, 0, 1);
         Due.is("one tide", Due.told(x, STILL + "tides 1;"), 2);
         Due.is("one tide", x.count(2), 1);
         Due.is("blanks everywhere",
@@ -236,10 +219,10 @@ public final class PromiseTest {
         Due.is("cell", x.of(0, 2), 0);
         Due.is("six souls, six callers", Due.told(x, STILL + "soul 0 1 0;soul 0 2 0;soul 0 3 0;soul 0 4 0;"
             + "soul 0 5 0;soul 0 6 0;caller 0;caller 1;caller 2;caller 3;caller 4;"), 12);
-        counts(x, 6, 5, 0, 6, 0);
+        Shores.counts(x, 6, 5, 0, 6, 0);
         Due.is("the shore in full",
             Due.told(x, STILL + "soul 1 9 1;soul 4 9 0;walk 2;caller 0;call 0;soul 2 2 0;tides 7;walk 0;"), 9);
-        counts(x, 3, 1, 9, 0, 2, 0, 0, 0, 0, 0);
+        Shores.counts(x, 3, 1, 9, 0, 2, 0, 0, 0, 0, 0);
         Due.is("held", x.of(0, 3), 0);
         Due.is("dry stays of what is held", x.of(0, 4), 1);
         Due.is("told later, found", x.of(2, 2), -1);
@@ -247,7 +230,7 @@ public final class PromiseTest {
     }
 
     private static void fault(String text, int place) {
-        SoulShore x = read("shore 0 1 2 3 4 0 1 2 3 4 0 1;soul 5 9 0;soul 1 2 3;caller 2;walk 2;");
+        SoulShore x = Shores.read("shore 0 1 2 3 4 0 1 2 3 4 0 1;soul 5 9 0;soul 1 2 3;caller 2;walk 2;");
         x.tides(2);
         x.seen(3, 3);
         x.clear();
@@ -257,6 +240,7 @@ public final class PromiseTest {
     }
 
     private static void promise08ReadFaults() {
+        Due.sentence("Promise 8: read");
         fault("", 0);
         fault("   ", 3);
         fault("soul 0 1 0;", 0);
@@ -321,7 +305,8 @@ public final class PromiseTest {
     }
 
     private static void promise08ReadReplaces() {
-        SoulShore x = read("shore 4 4 4 4 4 4 4 4 4 4 4 4;soul 0 1 0;soul 0 2 0;caller 0;caller 0;walk 2;tides 9;");
+        Due.sentence("Promise 8: read");
+        SoulShore x = Shores.read("shore 4 4 4 4 4 4 4 4 4 4 4 4;soul 0 1 0;soul 0 2 0;caller 0;caller 0;walk 2;tides 9;");
         x.gulls(5);
         x.image(0);
         x.tides(2);
@@ -332,51 +317,53 @@ public final class PromiseTest {
         long above = x.part(0);
         long below = x.part(1);
         Due.is("read()", Due.told(x, STILL + "soul 3 4 5;"), 2);
-        counts(x, 1, 0, 0, 1, 0, 0, 0, 0, 0, 0, 41);
+        Shores.counts(x, 1, 0, 0, 1, 0, 0, 0, 0, 0, 0, 41);
         Due.is("current", x.current(3, 0), 0);
         Due.is("part(0) stays", x.part(0), above);
         Due.is("part(1) stays", x.part(1), below);
         Due.is("status(0) stays", x.status(0), 1);
         Due.is("read() again", x.read(), 2);
         Due.is("image stays", x.from(0), 1);
-        counts(x, 2, 2, 10, 2, 0, 1);
+        Shores.counts(x, 2, 2, 10, 2, 0, 1);
     }
 
     private static void promise08ReadEnds() {
+        Due.sentence("Promise 8: read");
         String ends = "shore2 2 2 2 2 2 2 2 2 2 2 2;" + "tides99;".repeat(10);
         SoulShore x = new SoulShore();
         Due.is("tides to 999", Due.told(x, ends + "tides 50;soul 0 1 1;walk 2;"), 14);
-        counts(x, 1, 0, 999, 0, 1, 1);
+        Shores.counts(x, 1, 0, 999, 0, 1, 1);
         Due.is("no tide goes by at 999", x.of(0, 4), 0);
         Due.is("tides at 998 and on", Due.told(x, ends + "tides 8;walk 1;soul 0 1 1;walk 2;"), 15);
-        counts(x, 1, 0, 999, 0, 1, 1);
+        Shores.counts(x, 1, 0, 999, 0, 1, 1);
         Due.is("tides behind 999", Due.told(x, ends + "soul 0 1 0;walk 1;tides 99;"), 14);
-        counts(x, 1, 0, 999, 0, 1, 0);
+        Shores.counts(x, 1, 0, 999, 0, 1, 0);
         Due.is("dry by 9", x.of(0, 4), 9);
     }
 
     private static void promise09Tides() {
+        Due.sentence("Promise 9: tides");
         SoulShore x = new SoulShore();
         for (int n : new int[] {LEAST, -1, 0, 61, MOST}) {
             Due.bad(x, "tides(" + n + ")", y -> y.tides(n));
         }
         Due.is("tides(1)", x.tides(1), 0);
-        x = read("shore 4 2 2 2 2 2 2 2 2 2 2 0;soul 0 1 0;soul 0 1 11;soul 0 1 5;walk 2;");
-        counts(x, 3, 0, 1, 3);
+        x = Shores.read("shore 4 2 2 2 2 2 2 2 2 2 2 0;soul 0 1 0;soul 0 1 11;soul 0 1 5;walk 2;");
+        Shores.counts(x, 3, 0, 1, 3);
         Due.is("tides(60)", x.tides(60), 3);
-        counts(x, 3, 0, 61, 3, 0, 1, 0, 0, 0, 1);
+        Shores.counts(x, 3, 0, 61, 3, 0, 1, 0, 0, 0, 1);
         Due.is("on by 2", x.of(0, 2), 2);
         Due.is("back by 2", x.of(1, 2), 9);
         Due.is("still", x.of(2, 2), 5);
-        x = read("shore 0 1 2 2 2 2 2 2 2 2 3 4;soul 0 1 1;soul 0 1 10;");
+        x = Shores.read("shore 0 1 2 2 2 2 2 2 2 2 3 4;soul 0 1 1;soul 0 1 10;");
         x.tides(3);
         Due.is("not beyond 0", x.of(0, 2), 0);
         Due.is("not beyond 11", x.of(1, 2), 11);
-        x = read(STILL + "soul 0 1 0;soul 0 1 0;walk 1;caller 0;call 0;");
+        x = Shores.read(STILL + "soul 0 1 0;soul 0 1 0;walk 1;caller 0;call 0;");
         for (int n = 0; n < 16; n++) {
             x.tides(60);
         }
-        counts(x, 2, 1, 961, 0, 1, 0, 0, 0, 0, 8);
+        Shores.counts(x, 2, 1, 961, 0, 1, 0, 0, 0, 0, 8);
         Due.is("dry by 99 at most", x.of(1, 4), 99);
         Due.is("what is held dries no more", x.of(0, 4), 1);
         x.tides(37);
@@ -391,20 +378,21 @@ public final class PromiseTest {
     }
 
     private static void promise10Walks() {
-        SoulShore x = read("shore 2 4 2 2 2 2 2 2 2 2 2 2;soul 0 1 0;soul 0 2 1;soul 0 3 1;soul 0 4 3;");
+        Due.sentence("Promise 10: walks");
+        SoulShore x = Shores.read("shore 2 4 2 2 2 2 2 2 2 2 2 2;soul 0 1 0;soul 0 2 1;soul 0 3 1;soul 0 4 3;");
         for (int s : new int[] {LEAST, -2, 2, MOST}) {
             Due.bad(x, "walks(" + s + ")", y -> y.walks(s));
         }
         Due.is("walks(1)", x.walks(1), 2);
-        counts(x, 4, 0, 1, 2, 2, 1, 0, 0, 0, 1);
+        Shores.counts(x, 4, 0, 1, 2, 2, 1, 0, 0, 0, 1);
         Due.is("dry by the tide behind it", x.of(1, 4), 1);
         Due.is("no cell any more", x.of(1, 2), -1);
         Due.is("others stay", x.of(0, 2), 0);
         Due.is("walks(-1)", x.walks(-1), 1);
         Due.is("walks(-1) at 0", x.walks(-1), 0);
-        counts(x, 4, 0, 3, 1, 3, 0);
+        Shores.counts(x, 4, 0, 3, 1, 3, 0);
         Due.is("walks(0)", x.walks(0), 0);
-        x = read("shore 2 2 2 2 2 2 2 2 2 2 2 1;soul 0 1 11;");
+        x = Shores.read("shore 2 2 2 2 2 2 2 2 2 2 2 1;soul 0 1 11;");
         for (int n = 0; n < 10; n++) {
             Due.is("walks(1)", x.walks(1), n == 9 ? 1 : 0);
         }
@@ -429,6 +417,7 @@ public final class PromiseTest {
     }
 
     private static void promise11Calls() {
+        Due.sentence("Promise 11: calls");
         SoulShore x = new SoulShore();
         Due.bad(x, "calls(0) of none", y -> y.calls(0));
         x.caller(0);
@@ -439,14 +428,14 @@ public final class PromiseTest {
         x.soul(0, 5, 3);
         Due.no(x, "calls(0) while all are adrift", y -> y.calls(0));
         // he looks for 7: 5 is as far as 9, so the least
-        x = shelf(0, 7, 0, 5, 0, 9, 0, 8);
+        x = Shores.shelf(0, 7, 0, 5, 0, 9, 0, 8);
         x.caller(0);
         x.caller(0);
         x.caller(0);
         x.caller(0);
         x.caller(0);
         Due.is("calls(1) looks for 5", x.calls(1), 1);
-        counts(x, 4, 5, 1, 0, 3, 0, 0, 0, 0, 1);
+        Shores.counts(x, 4, 5, 1, 0, 3, 0, 0, 0, 0, 1);
         Due.is("held", x.of(1, 3), 1);
         Due.no(x, "calls(1) holds one", y -> y.calls(1));
         Due.is("calls(4) looks for 5 when there is none", x.calls(4), 0);
@@ -454,21 +443,22 @@ public final class PromiseTest {
         Due.is("calls(2)", x.calls(2), 2);
         Due.no(x, "calls(3) finds none", y -> y.calls(3));
         // alike far: the least
-        x = shelf(0, 6, 0, 9, 0, 5, 0, 7);
+        x = Shores.shelf(0, 6, 0, 9, 0, 5, 0, 7);
         x.caller(0);
         x.calls(0);
         x.caller(2);
         Due.is("of like ones the least", x.calls(1), 1);
         // what weighs it is, as it feels to him
-        x = shelf(1, 4, 3, 1, 0, 5);
+        x = Shores.shelf(1, 4, 3, 1, 0, 5);
         x.caller(4);
         Due.is("calls(0): 12, 6, 10 of 4", x.calls(0), 1);
     }
 
     private static void promise12Returns() {
+        Due.sentence("Promise 12: returns");
         SoulShore x = new SoulShore();
         Due.bad(x, "returns(0) of none", y -> y.returns(0));
-        x = shelf(5, 3, 0, 9);
+        x = Shores.shelf(5, 3, 0, 9);
         x.caller(0);
         x.caller(0);
         for (int i : new int[] {LEAST, -1, 2, 6, MOST}) {
@@ -479,7 +469,7 @@ public final class PromiseTest {
         x.tides(5);
         Due.no(x, "returns(1)", y -> y.returns(1));
         Due.is("returns(0)", x.returns(0), 0);
-        counts(x, 2, 2, 6, 0, 2, 0, 0, 0, 0, 3);
+        Shores.counts(x, 2, 2, 6, 0, 2, 0, 0, 0, 0, 3);
         Due.is("dry as it was", x.of(0, 4), 1);
         Due.is("the other is dry", x.of(1, 4), 6);
         x.tides(1);
@@ -488,9 +478,10 @@ public final class PromiseTest {
     }
 
     private static void promise13Undo() {
+        Due.sentence("Promise 13: undo");
         SoulShore x = new SoulShore();
         Due.no(x, "undo()", SoulShore::undo);
-        x = read("shore 3 3 3 3 3 3 3 3 3 3 3 3;soul 0 5 3;soul 4 5 0;caller 0;caller 1;");
+        x = Shores.read("shore 3 3 3 3 3 3 3 3 3 3 3 3;soul 0 5 3;soul 4 5 0;caller 0;caller 1;");
         long[] digests = new long[6];
         digests[0] = x.digest();
         x.walks(0);
@@ -522,13 +513,14 @@ public final class PromiseTest {
         x.note(0, 1, 1, 1);
         x.mark(0, 1, 1);
         Due.is("undo()", x.undo(), 4);
-        counts(x, 2, 2, 4, 2, 0, 4, 1, 1, 1, 0);
+        Shores.counts(x, 2, 2, 4, 2, 0, 4, 1, 1, 1, 0);
     }
 
     private static void promise14Of() {
+        Due.sentence("Promise 14: of");
         SoulShore x = new SoulShore();
         Due.bad(x, "of(0, 0) of none", y -> y.of(0, 0));
-        x = read(STILL + "soul 1 2 3;soul 4 9 0;soul 5 5 0;caller 0;walk 1;call 0;tides 3;");
+        x = Shores.read(STILL + "soul 1 2 3;soul 4 9 0;soul 5 5 0;caller 0;walk 1;call 0;tides 3;");
         for (int s : new int[] {LEAST, -1, 3, 6, MOST}) {
             Due.bad(x, "of(" + s + ", 0)", y -> y.of(s, 0));
         }
@@ -545,8 +537,9 @@ public final class PromiseTest {
 
     /** All kinds, at the weights and the dryness where they turn. */
     private static void promise14Weighs() {
+        Due.sentence("Promise 14: of");
         for (int w = 1; w <= 9; w += 2) {
-            SoulShore x = shelf(0, w, 1, w, 2, w, 3, w, 4, w, 5, w);
+            SoulShore x = Shores.shelf(0, w, 1, w, 2, w, 3, w, 4, w, 5, w);
             int half = (w + 1) / 2;
             int[][] due = {
                 {w, w + 2, half, w + 2, half, w + 2},
@@ -561,7 +554,7 @@ public final class PromiseTest {
                 x.tides(1);
             }
         }
-        SoulShore x = read(STILL + "soul 5 4 1;soul 2 4 1;soul 4 8 1;soul 2 1 1;");
+        SoulShore x = Shores.read(STILL + "soul 5 4 1;soul 2 4 1;soul 4 8 1;soul 2 1 1;");
         Due.is("weedy by 0", x.of(0, 5), 7);
         Due.is("half of 4", x.of(1, 5), 2);
         Due.is("half of 8", x.of(2, 5), 4);
@@ -569,9 +562,10 @@ public final class PromiseTest {
     }
 
     private static void promise15About() {
+        Due.sentence("Promise 15: about");
         SoulShore x = new SoulShore();
         Due.bad(x, "about(0, 0) of none", y -> y.about(0, 0));
-        x = read(STILL + "soul 1 2 0;soul 4 9 0;caller 0;caller 3;caller 5;");
+        x = Shores.read(STILL + "soul 1 2 0;soul 4 9 0;caller 0;caller 3;caller 5;");
         for (int i : new int[] {LEAST, -1, 3, 6, MOST}) {
             Due.bad(x, "about(" + i + ", 0)", y -> y.about(i, 0));
         }
@@ -600,6 +594,7 @@ public final class PromiseTest {
     }
 
     private static void promise16Feels() {
+        Due.sentence("Promise 16: feels");
         SoulShore x = new SoulShore();
         for (int kind = 0; kind < 6; kind++) {
             x.caller(kind);
@@ -627,12 +622,13 @@ public final class PromiseTest {
             Due.bad(x, "feels(" + n + ", 0)", y -> y.feels(n, 0));
             Due.bad(x, "feels(0, " + n + ")", y -> y.feels(0, n));
         }
-        SoulShore none = read(STILL + "soul 0 1 0;");
+        SoulShore none = Shores.read(STILL + "soul 0 1 0;");
         Due.bad(none, "feels(0, 0) of no caller", y -> y.feels(0, 0));
     }
 
     private static void promise17Where() {
-        SoulShore x = read("shore 4 4 4 2 3 0 2 2 2 2 4 4;soul 0 1 0;soul 0 1 1;soul 0 1 3;soul 0 1 10;");
+        Due.sentence("Promise 17: where");
+        SoulShore x = Shores.read("shore 4 4 4 2 3 0 2 2 2 2 4 4;soul 0 1 0;soul 0 1 1;soul 0 1 3;soul 0 1 10;");
         for (int s : new int[] {LEAST, -1, 4, 6, MOST}) {
             Due.bad(x, "where(" + s + ", 0)", y -> y.where(s, 0));
         }
@@ -663,7 +659,8 @@ public final class PromiseTest {
     }
 
     private static void promise18Comes() {
-        SoulShore x = read("shore 4 4 4 2 3 0 2 2 2 2 4 4;");
+        Due.sentence("Promise 18: comes");
+        SoulShore x = Shores.read("shore 4 4 4 2 3 0 2 2 2 2 4 4;");
         for (int c : new int[] {LEAST, -1, 12, MOST}) {
             Due.bad(x, "comes(" + c + ", 0)", y -> y.comes(c, 0));
         }
@@ -691,10 +688,11 @@ public final class PromiseTest {
     }
 
     private static void promise19Walk() {
+        Due.sentence("Promise 19: walk");
         SoulShore x = new SoulShore();
         walkIs(x, 0);
         Due.bad10(x, "walk(1, -2) of no soul", y -> y.walk(1, -2));
-        x = read("shore 2 3 2 2 2 2 2 2 2 2 2 2;soul 0 1 1;soul 0 2 2;soul 0 3 4;");
+        x = Shores.read("shore 2 3 2 2 2 2 2 2 2 2 2 2;soul 0 1 1;soul 0 2 2;soul 0 3 4;");
         for (int souls : new int[] {LEAST, -1, 8, 64, MOST}) {
             Due.bad10(x, "walk(" + souls + ", -2)", y -> y.walk(souls, -2));
         }
@@ -712,13 +710,14 @@ public final class PromiseTest {
         walkIs(x, 3, 1);
         Due.is("nothing has gone", x.count(3), 2);
         // it is at 8, 6, 4, 2, 2, .., so at 2 by the fourth walk; of all rows to 2 the first waits by steps back
-        x = read("shore 2 2 2 2 0 2 0 2 0 2 0 2;soul 0 1 8;");
+        x = Shores.read("shore 2 2 2 2 0 2 0 2 0 2 0 2;soul 0 1 8;");
         walkIs(x, 1, -1, -1, 1, 1);
         promise19Far();
     }
 
     private static void promise19Far() {
-        SoulShore x = read("shore 2 2 2 2 2 2 2 2 2 2 2 2;soul 0 1 0;soul 0 1 11;walk 2;");
+        Due.sentence("Promise 19: walk");
+        SoulShore x = Shores.read("shore 2 2 2 2 2 2 2 2 2 2 2 2;soul 0 1 0;soul 0 1 11;walk 2;");
         walkIs(x, 3, -1, 1, 1, 1, 1, 1, 1, 1, 1, 1, 1, 1);
         // just 20 steps
         x = farShore(new int[] {-2, -2, 1, 2, 2, -1, 1, 1, 1, 2, 1, 2}, new int[] {3, 4, 11, 1, 7, 2}, 9);
@@ -730,7 +729,7 @@ public final class PromiseTest {
         }
         Due.bad10(x, "walk(63, -1)", y -> y.walk(63, -1));
         // beyond 999
-        x = read(STILL + "soul 0 1 4;");
+        x = Shores.read(STILL + "soul 0 1 4;");
         for (int n = 0; n < 17; n++) {
             x.tides(60);
         }
@@ -752,7 +751,8 @@ public final class PromiseTest {
     }
 
     private static void promise20Right() {
-        SoulShore x = shelf(0, 2, 0, 6, 0, 9);
+        Due.sentence("Promise 20: right");
+        SoulShore x = Shores.shelf(0, 2, 0, 6, 0, 9);
         Due.is("right()", x.right(), 0);
         for (int i = 0; i < 4; i++) {
             x.caller(0);
@@ -778,6 +778,7 @@ public final class PromiseTest {
     }
 
     private static void promise21Order() {
+        Due.sentence("Promise 21: order");
         SoulShore x = new SoulShore();
         orderIs(x, 0);
         for (int k : new int[] {LEAST, -2}) {
@@ -787,7 +788,7 @@ public final class PromiseTest {
         x.caller(1);
         orderIs(x, 0, 0, 1);
         // they weigh 6 and 5; caller 0 looks for 4, so he would take 1's, if he came first
-        x = shelf(1, 4, 0, 5);
+        x = Shores.shelf(1, 4, 0, 5);
         x.caller(0);
         x.caller(0);
         Due.is("takes", x.about(0, 3), 1);
@@ -830,6 +831,7 @@ public final class PromiseTest {
     }
 
     private static void promise22Swaps() {
+        Due.sentence("Promise 22: swaps");
         Due.is("swaps()", new SoulShore().swaps(), 0);
         swapsAre(0, -1, -1);
         swapsAre(0, 0, 1, 2, 3, 4, 5);
@@ -847,6 +849,7 @@ public final class PromiseTest {
     }
 
     private static void promise23Seen() {
+        Due.sentence("Promise 23: seen");
         SoulShore x = new SoulShore();
         for (int m : new int[] {LEAST, -1, 61, MOST}) {
             Due.bad(x, "seen(" + m + ", 0)", y -> y.seen(m, 0));
@@ -864,9 +867,10 @@ public final class PromiseTest {
     }
 
     private static void promise24Which() {
+        Due.sentence("Promise 24: which");
         SoulShore x = new SoulShore();
         Due.is("which()", x.which(), 0);
-        x = read("shore 3 3 3 3 3 2 2 2 2 2 2 2;soul 0 1 0;soul 0 1 3;soul 0 1 5;soul 0 1 11;");
+        x = Shores.read("shore 3 3 3 3 3 2 2 2 2 2 2 2;soul 0 1 0;soul 0 1 3;soul 0 1 5;soul 0 1 11;");
         Due.is("which()", x.which(), 15);
         x.seen(60, 5);
         Due.is("which()", x.which(), 7);
@@ -888,9 +892,10 @@ public final class PromiseTest {
     }
 
     private static void promise25Tell() {
+        Due.sentence("Promise 25: tell");
         SoulShore x = new SoulShore();
         Due.is("tell()", x.tell(), -1);
-        x = read("shore 3 3 3 3 3 2 2 2 2 2 2 2;soul 0 1 0;soul 0 1 3;");
+        x = Shores.read("shore 3 3 3 3 3 2 2 2 2 2 2 2;soul 0 1 0;soul 0 1 3;");
         Due.asks(x, "tell()", SoulShore::tell, 0);
         x.seen(0, 9);
         Due.is("tell()", x.tell(), -1);
@@ -904,6 +909,7 @@ public final class PromiseTest {
     }
 
     private static void promise26Note() {
+        Due.sentence("Promise 26: note");
         SoulShore x = new SoulShore();
         Due.bad(x, "note of no soul", y -> y.note(0, 1, 0, 0));
         x.soul(0, 1, 0);
@@ -929,6 +935,7 @@ public final class PromiseTest {
     }
 
     private static void promise27Mark() {
+        Due.sentence("Promise 27: mark");
         SoulShore x = new SoulShore();
         Due.bad(x, "mark of no caller", y -> y.mark(0, 0, 0));
         x.caller(0);
@@ -951,7 +958,8 @@ public final class PromiseTest {
     }
 
     private static void promise28Forget() {
-        SoulShore x = read(STILL + "soul 0 1 0;caller 0;");
+        Due.sentence("Promise 28: forget");
+        SoulShore x = Shores.read(STILL + "soul 0 1 0;caller 0;");
         x.seen(1, 1);
         x.note(0, 1, 1, 1);
         x.note(0, 1, 1, 1);
@@ -962,16 +970,17 @@ public final class PromiseTest {
             Due.bad(x, "forget(" + what + ")", y -> y.forget(what));
         }
         Due.is("forget(1)", x.forget(1), 2);
-        counts(x, 1, 1, 0, 1, 0, 0, 1, 0, 3);
+        Shores.counts(x, 1, 1, 0, 1, 0, 0, 1, 0, 3);
         Due.is("forget(0)", x.forget(0), 1);
-        counts(x, 1, 1, 0, 1, 0, 0, 0, 0, 3);
+        Shores.counts(x, 1, 1, 0, 1, 0, 0, 0, 0, 3);
         Due.is("forget(2)", x.forget(2), 3);
-        counts(x, 1, 1, 0, 1, 0, 0, 0, 0, 0);
+        Shores.counts(x, 1, 1, 0, 1, 0, 0, 0, 0, 0);
         Due.is("forget(2) of none", x.forget(2), 0);
         Due.is("note anew", x.note(0, 1, 1, 1), 1);
     }
 
     private static void promise29Is() {
+        Due.sentence("Promise 29: is");
         SoulShore x = new SoulShore();
         Due.bad(x, "is(0) of none", y -> y.is(0));
         x.soul(0, 5, 0);
@@ -995,6 +1004,7 @@ public final class PromiseTest {
     }
 
     private static void promise30Look() {
+        Due.sentence("Promise 30: look");
         SoulShore x = new SoulShore();
         Due.bad(x, "look(0) of none", y -> y.look(0));
         x.soul(0, 4, 0);
@@ -1016,12 +1026,13 @@ public final class PromiseTest {
         x.note(0, 4, 3, 12);
         Due.asks(x, "look(0) of one", y -> y.look(0), 0);
         // 2 and 5 alike: the soul's own weight counts, not the one noted
-        SoulShore light = read(STILL + "soul 0 1 0;");
+        SoulShore light = Shores.read(STILL + "soul 0 1 0;");
         light.note(0, 1, 0, 1);
         Due.is("look(0) of 1, 1, 1", light.look(0), 5);
     }
 
     private static void promise31Kinds() {
+        Due.sentence("Promise 31: kinds");
         SoulShore x = new SoulShore();
         Due.bad(x, "kinds(0) of none", y -> y.kinds(0));
         x.caller(0);
@@ -1045,6 +1056,7 @@ public final class PromiseTest {
     }
 
     private static void promise32Ask() {
+        Due.sentence("Promise 32: ask");
         SoulShore x = new SoulShore();
         Due.bad(x, "ask(0) of none", y -> y.ask(0));
         x.caller(0);
@@ -1079,9 +1091,10 @@ public final class PromiseTest {
     }
 
     private static void promise33Claim() {
+        Due.sentence("Promise 33: claim");
         SoulShore x = new SoulShore();
         Due.bad10(x, "claim of none", y -> y.claim(0, 1, 0, -1));
-        x = read(STILL + "soul 0 5 0;soul 0 5 0;soul 3 9 0;soul 0 5 0;caller 0;caller 0;caller 4;walk 1;tides 3;");
+        x = Shores.read(STILL + "soul 0 5 0;soul 0 5 0;soul 3 9 0;soul 0 5 0;caller 0;caller 0;caller 4;walk 1;tides 3;");
         for (int n : new int[] {LEAST, -1, 3, 6, MOST}) {
             Due.bad10(x, "claim(" + n + ", 0, 0, -1)", y -> y.claim(n, 0, 0, -1));
             Due.bad10(x, "claim(0, " + n + ", 0, -1)", y -> y.claim(0, n, 0, -1));
@@ -1100,37 +1113,34 @@ public final class PromiseTest {
         // caller 2, rich, looks for 9 and feels 10: 8 are left, so the same
         claimIs(x, 2, 0, 0, 0, 1);
         // 1 looks for 1 and feels 18: he wants not to have it, so 0 has it by the most half that still wins
-        x = read(STILL + "soul 0 9 0;soul 0 1 0;caller 0;caller 4;");
+        x = Shores.read(STILL + "soul 0 9 0;soul 0 1 0;caller 0;caller 4;");
         claimIs(x, 0, 1, 0, 0, 1, 11, 22, 23, 33, 44, 45, 55, 66, 67, 77, 88, 89, 99);
         claimIs(x, 1, 0, 0, 10, 20, 21, 32, 42, 43, 54, 64, 65, 76, 86, 87, 98);
     }
 
     private static void promise34Gulls() {
+        Due.sentence("Promise 34: gulls");
         SoulShore x = new SoulShore();
         for (int c : new int[] {LEAST, -1, 11, MOST}) {
             Due.bad(x, "gulls(" + c + ")", y -> y.gulls(c));
         }
         Due.is("gulls(3)", x.gulls(3), 1);
-        fraction(x, 0, 1);
-        x = read(STILL + "soul 1 3 0;soul 3 1 4;soul 0 9 0;soul 2 3 1;walk 1;soul 5 1 11;");
+        Shores.fraction(x, 0, 1);
+        x = Shores.read(STILL + "soul 1 3 0;soul 3 1 4;soul 0 9 0;soul 2 3 1;walk 1;soul 5 1 11;");
         // adrift: 3, 2, 4
         int[][] due = {{9, 1}, {81, 10}, {36, 5}, {63, 10}, {27, 5}, {9, 2}, {18, 5}, {27, 10}, {9, 5}, {9, 10}, {0, 1}};
         for (int c = 0; c <= 10; c++) {
             Due.is("gulls(" + c + ")", x.gulls(c), 1);
-            fraction(x, due[c][0], due[c][1]);
+            Shores.fraction(x, due[c][0], due[c][1]);
         }
         Due.is("none is taken", x.count(3), 3);
         x.gulls(3);
         Due.bad(x, "gulls(11)", y -> y.gulls(11));
-        fraction(x, 63, 10);
-    }
-
-    private static void fraction(SoulShore x, int above, int below) {
-        Due.is("part(0)", x.part(0), above);
-        Due.is("part(1)", x.part(1), below);
+        Shores.fraction(x, 63, 10);
     }
 
     private static void promise35Years() {
+        Due.sentence("Promise 35: years");
         SoulShore x = new SoulShore();
         for (int seed : new int[] {LEAST, -1, 1000000, MOST}) {
             Due.bad(x, "years(" + seed + ", 1)", y -> y.years(seed, 1));
@@ -1140,31 +1150,33 @@ public final class PromiseTest {
         }
         Due.is("years(999999, 60)", x.years(999999, 60), 0);
         // by 0: X is 12345 first, so walk 0 % 3 - 1 = -1, caller 0
-        Due.is("years(0, 1)", read(STILL + "soul 0 1 0;caller 0;").years(0, 1), 1);
+        Due.is("years(0, 1)", Shores.read(STILL + "soul 0 1 0;caller 0;").years(0, 1), 1);
         // by 1: X is 1103527590 first, so walk 16838 % 3 - 1 = 1, caller 1052 % 6 = 2
-        x = read(STILL + "soul 0 1 0;soul 0 2 0;soul 0 3 1;caller 0;caller 0;caller 0;walk 1;");
+        x = Shores.read(STILL + "soul 0 1 0;soul 0 2 0;soul 0 3 1;caller 0;caller 0;caller 0;walk 1;");
         Due.is("years(1, 0)", x.years(1, 0), 0);
         Due.asks(x, "years(1, 1)", y -> y.years(1, 1), 1);
         Due.is("it is not so yet", x.right(), 0);
-        Due.is("looked for by none", read(STILL + "soul 0 1 0;caller 0;walk 1;").years(1, 1), 0);
+        Due.is("looked for by none", Shores.read(STILL + "soul 0 1 0;caller 0;walk 1;").years(1, 1), 0);
         x.calls(0);
         Due.is("years behind a call", x.years(1, 1), 2);
         Due.is("years(1, 60)", x.years(1, 60) >= 2 ? 1 : 0, 1);
     }
 
     private static void promise36Part() {
-        SoulShore x = read(STILL + "soul 0 5 0;");
-        fraction(x, 0, 1);
+        Due.sentence("Promise 36: part");
+        SoulShore x = Shores.read(STILL + "soul 0 5 0;");
+        Shores.fraction(x, 0, 1);
         x.gulls(3);
-        fraction(x, 7, 2);
+        Shores.fraction(x, 7, 2);
         for (int what : new int[] {LEAST, -1, 2, MOST}) {
             Due.bad(x, "part(" + what + ")", y -> y.part(what));
         }
         x.shore();
-        fraction(x, 7, 2);
+        Shores.fraction(x, 7, 2);
     }
 
     private static void promise37Image() {
+        Due.sentence("Promise 37: image");
         SoulShore x = new SoulShore();
         for (int i : new int[] {LEAST, -1, 2, MOST}) {
             Due.bad(x, "image(" + i + ")", y -> y.image(i));
@@ -1186,6 +1198,7 @@ public final class PromiseTest {
     }
 
     private static void promise38From() {
+        Due.sentence("Promise 38: from");
         SoulShore x = new SoulShore();
         for (int i : new int[] {LEAST, -1, 2, MOST}) {
             Due.bad(x, "from(" + i + ")", y -> y.from(i));
@@ -1214,12 +1227,12 @@ public final class PromiseTest {
         x.type(65);
         Due.is("from(1)", x.from(1), 1);
         Due.is("text stays", x.clear() > 0 ? 1 : 0, 1);
-        fraction(x, 9, 10);
+        Shores.fraction(x, 9, 10);
         x.shore();
         Due.is("from(1) once more", x.from(1), 1);
         Due.told(x, STILL);
         x.from(1);
-        counts(x, 3, 2, 9, 2, 1, 1, 1, 1, 1, 3, 30);
+        Shores.counts(x, 3, 2, 9, 2, 1, 1, 1, 1, 1, 3, 30);
         Due.is("current", x.comes(0, 1), 1 | 2);
         Due.is("undo() of what it kept", x.undo(), 9);
         Due.is("held then", x.of(2, 3), 0);
@@ -1247,6 +1260,7 @@ public final class PromiseTest {
     }
 
     private static void promise39Status() {
+        Due.sentence("Promise 39: status");
         SoulShore x = new SoulShore();
         Due.refused(x, "status(3)", y -> y.status(3), -1, 0);
         Due.refused(x, "status(-1)", y -> y.status(-1), -1, 0);
@@ -1272,7 +1286,9 @@ public final class PromiseTest {
     }
 
     private static void promise40Count() {
-        SoulShore x = read(STILL + "soul 0 5 0;soul 0 5 0;soul 0 5 1;soul 0 5 7;soul 0 5 7;caller 0;walk 1;walk 2;call 0;");
+        Due.sentence("Promise 40: count");
+        SoulShore x = Shores.read(STILL
+            + "soul 0 5 0;soul 0 5 0;soul 0 5 1;soul 0 5 7;soul 0 5 7;caller 0;walk 1;walk 2;call 0;");
         x.tides(1);
         x.tides(1);
         x.seen(1, 1);
@@ -1283,7 +1299,7 @@ public final class PromiseTest {
             x.mark(0, 1, 1);
         }
         Due.type(x, "abcdefgh");
-        counts(x, 5, 1, 4, 2, 2, 1, 1, 3, 4, 2, 8);
+        Shores.counts(x, 5, 1, 4, 2, 2, 1, 1, 3, 4, 2, 8);
         for (int what : new int[] {LEAST, -1, 11, MOST}) {
             Due.bad(x, "count(" + what + ")", y -> y.count(what));
         }
@@ -1298,11 +1314,12 @@ public final class PromiseTest {
     }
 
     private static void promise41Digest() {
+        Due.sentence("Promise 41: digest");
         SoulShore x = new SoulShore();
         long[] empty = new long[25];
         empty[24] = 1;
         Due.is("digest()", x.digest(), mixed(empty));
-        x = read("shore 0 1 2 3 4 0 1 2 3 4 0 1;soul 3 9 0;soul 4 7 0;soul 1 1 1;walk 0;caller 5;caller 2;call 1;");
+        x = Shores.read("shore 0 1 2 3 4 0 1 2 3 4 0 1;soul 3 9 0;soul 4 7 0;soul 1 1 1;walk 0;caller 5;caller 2;call 1;");
         x.tides(2);
         x.seen(60, 11);
         x.seen(1, 2);
