@@ -790,8 +790,10 @@ public final class TermsTest {
         Due.asks(x, "order(0)", y -> y.order(0), 0);
         Due.asks(x, "order(1)", y -> y.order(1), -5);
         // who has called in the meantime calls no more, though his own is still on THE SHELF
-        x = Shores.callers(Shores.shelf(0, 9, 1, 5, 0, 5), 0, 0);
-        Due.is("order(-1)", x.order(-1), 1);
+        x = Shores.callers(Shores.shelf(0, 9, 1, 5), 0, 0);
+        Due.is("order(-1)", x.order(-1), 2);
+        x.soul(0, 5, 0);
+        x.walks(0);
         Due.is("calls(1)", x.calls(1), 2);
         Due.asks(x, "order(-1)", y -> y.order(-1), 1);
         Due.asks(x, "order(0)", y -> y.order(0), 0);
@@ -1408,7 +1410,7 @@ public final class TermsTest {
         Due.is("digest()", x.digest(), empty);
         x.shore();
         for (int n = 0; n < 6; n++) {
-            x.soul((n + 1) % 6, 1 + n, 11);
+            x.soul((n + 2) % 6, 1 + n, 11);
             x.caller(5 - n);
             x.seen(0, 0);
         }
