@@ -1385,10 +1385,10 @@ public final class SoulShore {
         }
 
         private int nearest(int i, int left) {
-            int found = 0;
-            int least = Integer.MAX_VALUE;
+            int found = NONE;
+            int least = 0;
             for (int s = 0; s < SOULS; s++) {
-                if (contains(left, s) && far[i * SOULS + s] < least) {
+                if (contains(left, s) && (found == NONE || far[i * SOULS + s] < least)) {
                     least = far[i * SOULS + s];
                     found = s;
                 }
